@@ -234,7 +234,7 @@ public final class GlassVows {
         int gone = life.hoursOf(n);
         if (gone > 0) {
             past.keep(life);
-            life.carryOut(Life.HOUR, 0, gone);
+            life.passHours(gone);
         }
         return gone;
     }
@@ -1332,7 +1332,7 @@ public final class GlassVows {
             return k == LEVEL && !parish.level ? 3 : 0;
         }
 
-        /** Only for what whyNot() allows. */
+        /** Only for what whyNot() allows; HOURS go by passHours(). */
         void carryOut(int act, int who, int n) {
             switch (act) {
                 case TURN:
@@ -1354,9 +1354,7 @@ public final class GlassVows {
                     left[who] -= n;
                     break;
                 default:
-                    for (int i = 0; i < n; i++) {
-                        passHour();
-                    }
+                    break;
             }
         }
 
@@ -1373,6 +1371,12 @@ public final class GlassVows {
         private void endear(int p, int n) {
             if (parish.hasPerson(p)) {
                 fond[p] = Math.min(MOST_FOND, fond[p] + n);
+            }
+        }
+
+        void passHours(int n) {
+            for (int i = 0; i < n; i++) {
+                passHour();
             }
         }
 
@@ -1825,11 +1829,14 @@ public final class GlassVows {
                 int who = whos[rightLines];
                 int n = numbers[rightLines];
                 int reason = life.whyNot(act, who, n);
-                if (reason == 0) {
-                    life.carryOut(act, who, n);
+                if (reason != 0) {
+                    why = 10 * act + reason;
+                } else if (act == Life.HOUR) {
+                    life.passHours(n);
                     rightLines++;
                 } else {
-                    why = 10 * act + reason;
+                    life.carryOut(act, who, n);
+                    rightLines++;
                 }
             }
             hourThen = life.hour;
