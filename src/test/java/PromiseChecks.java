@@ -198,6 +198,7 @@ public final class PromiseChecks {
         faultsOfNames();
         faultsOfSorts();
         faultsOfLength();
+        aNewParish();
     }
 
     private static void faultsOfTokens() {
@@ -298,6 +299,49 @@ public final class PromiseChecks {
         faultOfParish("early;early;" + " ".repeat(895), 6, 3);
         faultOfParish(" ".repeat(899) + "person a 1 1 1;", 900, 1);
         faultOfParish("early" + " ".repeat(894) + "x", 899, 1);
+        faultOfParish("early;" + " ".repeat(894) + "early;", 900, 1);
+        faultOfParish("early;" + " ".repeat(893) + "early;", 899, 3);
+    }
+
+    private static void aNewParish() {
+        promise = 4;
+        GlassVows x = parishOf("person a 5 6 70;person b 0 0 70;person c 5 6 70;person d 0 0 0;warms a 9;cools b 9;"
+                + "glass g a b 3 3;glass h c d 1 1;good k g 1 1;damp 0 599;grace 1;wish 70;early;level;");
+        x.tilt(0, 2);
+        x.hours(24);
+        x.tilt(0, 1);
+        x.widen(0, 1);
+        x.spill(0, 1);
+        x.turn(1);
+        x.wake(0);
+        due("lapsed", x.now(2), 2);
+        tell(x, "person a 5 6 40;person b 5 6 70;glass g a b 5 2;person c 1 1 1;person d 1 1 1;glass h c d 6 1;");
+        due("LINES", x.parish(), 6);
+        int[] counts = {4, 2, 0, 2, 50, 0, 0, 0, 0};
+        for (int what = 0; what < counts.length; what++) {
+            due("count(" + what + ")", x.count(what), counts[what]);
+        }
+        int[] nows = {0, 0, 0, 12, 0, 11};
+        for (int what = 0; what < nows.length; what++) {
+            due("now(" + what + ")", x.now(what), nows[what]);
+        }
+        int[] glass = {0, 1, 5, 2, 5, 0, 0, 0, 0, 2};
+        for (int what = 0; what < glass.length; what++) {
+            due("glass(0, " + what + ")", x.glass(0, what), glass[what]);
+        }
+        int[] person = {0, 70, 0, 0, 0, 0};
+        for (int what = 0; what < person.length; what++) {
+            due("person(1, " + what + ")", x.person(1, what), person[what]);
+        }
+        x.tilt(0, 1);
+        x.hours(24);
+        due("nobody warms", x.person(0, 1), 40);
+        due("nobody cools", x.person(1, 1), 70);
+        tell(x, "person a 0 0 1;person b 0 0 1;glass g a b 1 1;good k a 1 1;");
+        due("a good of a person", x.parish(), -54);
+        tell(x, "person a 0 0 1;person b 0 0 1;glass g a b 1 1;good k early 1 1;");
+        due("a good of a word that is no name", x.parish(), -54);
+        due("fault", x.fault(), 1);
     }
 
     private static void faults() {
@@ -709,6 +753,7 @@ public final class PromiseChecks {
     private static void watches() {
         promise = 20;
         GlassVows x = parishOf(PARISH);
+        due("one hour", x.watch(0, 1), 0);
         due("no such", x.watch(2, 1), NONE);
         due("no such", x.watch(-1, 1), NONE);
         due("0 hours", x.watch(0, 0), NONE);
@@ -1094,6 +1139,24 @@ public final class PromiseChecks {
         for (int i = 0; i < 8; i++) {
             x.drawn(60, i);
         }
+        GlassVows w = parishOf("person a 5 6 0;person b 0 0 0;glass g a b 4 4;early;grace 9;");
+        int turnings = 0;
+        for (int seed = 0; seed < 40; seed++) {
+            w.drawn(1, seed);
+            turnings += w.now(4);
+            w.undo();
+        }
+        due("nobody can turn what is all left", turnings, 0);
+        w.hours(1);
+        for (int seed = 0; seed < 40; seed++) {
+            Draws d = new Draws();
+            d.x = seed;
+            int first = d.of(12);
+            int second = first == 0 ? d.of(10) + 12 * d.of(12) : 12 * d.of(12);
+            due("one hour is drawn", w.drawn(1, seed), 1);
+            due("only b is awake to turn", w.now(4), second / 12 == 1 ? 1 : 0);
+            due("undone", w.undo(), 1);
+        }
         due("57 are left", x.drawn(60, 7), 57);
         due("all are over", x.drawn(60, 7), 0);
         promise = 36;
@@ -1105,6 +1168,7 @@ public final class PromiseChecks {
             z.undo();
         }
         due("30 seeds", z.odds(0, 30, 100), sum);
+        due("one seed, and the others", z.odds(0, 1, 100) + z.odds(0, 29, 101), sum);
         due("some but not all", sum > 0 && sum < 30, true);
         due("all stays", z.now(0), 0);
         due("no such", z.odds(1, 1, 1), NONE);

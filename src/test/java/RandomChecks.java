@@ -246,7 +246,8 @@ public final class RandomChecks {
     }
 
     private void step() {
-        switch (in(0, 21)) {
+        switch (in(0, 22)) {
+            case 22 -> callWildly();
             case 0, 1, 2, 3 -> act();
             case 4 -> call("hours", chance(90) ? in(1, 20) : in(-1, 62));
             case 5 -> call("undo");
@@ -264,6 +265,19 @@ public final class RandomChecks {
             }
             default -> tapeOnce();
         }
+    }
+
+    /** Any call of the face with numbers from the ends of what there is. */
+    private void callWildly() {
+        List<String> names = new ArrayList<>(new java.util.TreeSet<>(OF_PROGRAM.keySet()));
+        String name = names.get(rng.nextInt(names.size()));
+        int[] far = {Integer.MIN_VALUE, Integer.MIN_VALUE + 1, -1000, -2, -1, 0, 1, 2, 3, 4, 7, 8, 9, 15, 16, 23, 24, 31,
+            32, 60, 61, 250, 251, 599, 600, 601, 1 << 16, Integer.MAX_VALUE - 1, Integer.MAX_VALUE};
+        int[] numbers = new int[OF_PROGRAM.get(name).getParameterCount()];
+        for (int i = 0; i < numbers.length; i++) {
+            numbers[i] = chance(50) ? in(0, 4) : far[rng.nextInt(far.length)];
+        }
+        call(name, numbers);
     }
 
     private void act() {
