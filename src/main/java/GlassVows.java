@@ -506,12 +506,14 @@ public final class GlassVows {
         if (!isRead) {
             return -2 - tape.faultPlace;
         }
-        if (lives == 1) {
-            past.keep(life);
-            return ledger.judge(life);
-        }
         trial.copyFrom(life);
-        return ledger.judge(trial);
+        int wrongLine = ledger.judge(trial);
+        // a ROLL whose first LINE is WRONG, or that has none, is not lived: there is nothing of it to undo
+        if (lives == 1 && ledger.rightLines > 0) {
+            past.keep(life);
+            life.copyFrom(trial);
+        }
+        return wrongLine;
     }
 
     public int rolled(int what) {
@@ -1740,7 +1742,7 @@ public final class GlassVows {
 
         private boolean isJudged;
         private int why;
-        private int rightLines;
+        int rightLines;
         private int hourThen;
         private int lapsedThen;
 

@@ -1028,7 +1028,7 @@ public final class PlainModel {
             }
             right++;
         }
-        if (lives == 1) {
+        if (lives == 1 && right > 0) {
             keep(before);
         }
         rolled = new int[] {why, right, w.hour, w.lapsedBits()};

@@ -695,6 +695,44 @@ public final class PromiseChecks {
         due("acts of another parish", x.undo(), NONE);
     }
 
+    private static void undosOfRolls() {
+        promise = 16;
+        GlassVows x = new GlassVows();
+        due("a roll without lines", x.roll(1), NONE);
+        due("nothing of it was lived", x.undo(), NONE);
+        x = parishOf(PARISH);
+        due("blanks alone", rollOf(x, " \n ", 1), NONE);
+        due("nothing of them was lived", x.undo(), NONE);
+        due("the first line is wrong", rollOf(x, "ann turns;hour 3;", 1), 0);
+        due("why", x.rolled(0), 2);
+        due("nothing of it was lived", x.undo(), NONE);
+        due("hour", x.now(0), 0);
+        due("the second line is wrong", rollOf(x, "hour 3;ann turns;hour 2;", 1), 1);
+        due("hour", x.now(0), 3);
+        due("one line of it was lived", x.undo(), 0);
+        due("hour", x.now(0), 0);
+        x.wake(0);
+        due("who is fond as can be", rollOf(x, "ann woos 20;ann woos 20;ann woos 20;", 1), NONE);
+        due("is wooed still", rollOf(x, "ann woos 1;", 1), NONE);
+        due("fond", x.person(1, 1), 99);
+        due("a line was lived, though all is as it was", x.undo(), 2);
+        due("fond", x.person(1, 1), 99);
+        due("three lines are undone at once", x.undo(), 1);
+        due("fond", x.person(1, 1), 40);
+        due("undone", x.undo(), 0);
+        for (int i = 0; i < 8; i++) {
+            x.hours(1);
+        }
+        rollOf(x, "", 1);
+        rollOf(x, "bob wakes;", 1);
+        due("what was not lived drives out none that is kept", x.undo(), 7);
+        due("the latest that was done is undone", x.now(0), 7);
+        for (int i = 6; i >= 0; i--) {
+            due("each is kept", x.undo(), i);
+        }
+        due("hour", x.now(0), 0);
+    }
+
     private static void endings() {
         promise = 17;
         GlassVows x = parishOf(PARISH);
@@ -1473,6 +1511,7 @@ public final class PromiseChecks {
         spills();
         hoursGo();
         undos();
+        undosOfRolls();
         endings();
         watches();
         choicesOfGrains();
