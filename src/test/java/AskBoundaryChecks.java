@@ -176,12 +176,24 @@ public final class AskBoundaryChecks extends Checking {
         due("as late as may be", x.waking(0), 110);
         due("20, then 24 to 32", x.watch(0, 33), 2);
         due("as late as may be", x.waking(1), 320);
+        due("44 is the ninth hour without sand: he is awake", x.watch(0, 60), 3);
+        due("48 to 56", x.waking(2), 560);
         GlassVows y = parishOf("person a 1 2 50;person b 1 2 50;glass g a b 1 1;grace 1;");
         due("every other hour, but for 1, 25 and 49", y.watch(0, 60), 27);
         due("3 is the first", y.waking(0), 30);
         due("25 is in its hours", y.waking(11), 270);
         due("the last", y.waking(26), 590);
         due("none behind it", y.waking(27), NONE);
+        GlassVows later = parishOf("person a 1 2 50;person b 1 2 50;glass g a b 1 1;grace 1;level;");
+        later.tilt(0, 2);
+        live(later, 100);
+        later.tilt(0, 0);
+        due("from 101 on every other hour, but for 121 and 145", later.watch(0, 60), 28);
+        int[] laterDue = {1010, 1190, 1230, 1590};
+        int[] laterAt = {0, 9, 10, 27};
+        for (int i = 0; i < laterAt.length; i++) {
+            due("waking(" + laterAt[i] + ")", later.waking(laterAt[i]), laterDue[i]);
+        }
         GlassVows most = parishOf("person a 0 1 50;person b 0 1 50;glass g a b 1 1;grace 1;");
         due("30 is the most", most.watch(0, 60), 30);
         due("every other hour", most.waking(29), 590);
@@ -202,6 +214,10 @@ public final class AskBoundaryChecks extends Checking {
         late.tilt(0, 0);
         due("to hour 599, in which it ends", late.watch(0, 60), 1);
         due("in 599", late.waking(0), 5990);
+        GlassVows over = heldUntil(590, 5, "grace 6;");
+        live(over, 10);
+        due("five of six hours are waited", over.glass(0, 7), 5);
+        due("all are over: in no hour does it lapse", over.watch(0, 60), 0);
         waking();
     }
 

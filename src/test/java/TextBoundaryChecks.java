@@ -221,6 +221,11 @@ public final class TextBoundaryChecks extends Checking {
         parishFails("damp 599 ^598;", 2);
         parishFails("damp 1 ^0;", 2);
         parishFails("damp 1^;", 1);
+        GlassVows y = parishOf("damp 11 11;damp 9 9;damp 7 7;damp 5 5;damp 3 3;damp 1 1;");
+        for (int h = 0; h < 13; h++) {
+            due("hour " + h + " is damp", y.now(1), h % 2 == 1 && h < 12 ? 1 : 0);
+            y.hours(1);
+        }
         terms("'good' NAME GLASS N N (0 to 99 each: what it is worth to the first and to the second of the two)");
         parishIs(WED + "good k g 0 99;good l g 99 0;", 5);
         GlassVows x = parishOf(WED + "good k g 0 99;");
