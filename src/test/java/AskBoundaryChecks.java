@@ -58,6 +58,12 @@ public final class AskBoundaryChecks extends Checking {
         x.image(0);
         due("all stays", stateOf(x), before);
         due("two acts can be undone", x.undo(), 1);
+        GlassVows y = parishOf("person a 5 9 50;person b 7 8 60;person c 5 9 55;person d 7 8 60;glass g a b 20 3;"
+                + "glass h d c 9 3;good k g 1 1;damp 2 5;grace 3;");
+        y.hours(3);
+        String answers = answersOf(y);
+        due("a roll that is judged alone", rollOf(y, "hour 60;hour 60;", 0), NONE);
+        due("asked again", answersOf(y), answers);
     }
 
     // ---- promises 17 to 19 ----
@@ -106,8 +112,10 @@ public final class AskBoundaryChecks extends Checking {
         for (int grace = 1; grace <= 9; grace++) {
             due("grace " + grace, parishOf(COLD + "glass g a b 10 2;grace " + grace + ";").lapses(0), 4 + grace);
         }
-        due("willing in the last hour of grace", parishOf("person a 6 7 50;person b 0 0 0;glass g a b 10 2;").lapses(0), 13);
-        due("not willing till an hour later", parishOf("person a 7 8 50;person b 0 0 0;glass g a b 10 2;").lapses(0), 6);
+        due("willing in the last hour of grace", parishOf("person a 6 7 50;person b 0 0 0;"
+                + "glass g a b 10 2;").lapses(0), 13);
+        due("not willing till an hour later", parishOf("person a 7 8 50;person b 0 0 0;glass g a b 10 2;").lapses(0),
+                6);
         promise(18, "LAPSES: the HOUR; NONE: not by HOUR 599, it is LAPSED, no such one.");
         due("in 599", heldUntil(500, 99, "grace 1;").lapses(0), 599);
         due("in 599", heldUntil(500, 98, "grace 2;").lapses(0), 599);
@@ -125,7 +133,6 @@ public final class AskBoundaryChecks extends Checking {
         due("an empty parish", new GlassVows().lapses(0), NONE);
         GlassVows y = parishOf("person a 5 6 50;person b 0 0 0;glass g a b 10 2;grace 1;");
         live(y, 5);
-        y.spill(0, y.glass(0, 4) > 0 ? y.glass(0, 4) : 250);
         due("awake now", y.lapses(0), 11);
         promise(19, "The GLASS that LAPSES soonest (of like ones the first); NONE: none does.");
         due("none", new GlassVows().soonest(), NONE);
@@ -148,8 +155,8 @@ public final class AskBoundaryChecks extends Checking {
     // ---- promises 20 and 21 ----
 
     private static void watch() {
-        terms("one of the two may be WOKEN at the beginning of each HOUR in which none are LEFT and nobody is WILLING, if he "
-                + "is so then");
+        terms("one of the two may be WOKEN at the beginning of each HOUR in which none are LEFT and nobody is "
+                + "WILLING, if he is so then");
         String asleep = "person a 20 21 50;person b 20 21 50;glass g a b 3 1;grace 1;";
         due("ends in 3: not yet", parishOf(asleep).watch(0, 3), 0);
         due("lapses in 3", parishOf(asleep).watch(0, 4), 1);
@@ -165,8 +172,8 @@ public final class AskBoundaryChecks extends Checking {
         GlassVows warming = parishOf("person a 20 21 49;person b 20 21 0;warms a 1;glass g a b 24 1;grace 1;");
         due("fond from 24 on", warming.watch(0, 25), 1);
         due("in 24", warming.waking(0), 240);
-        terms("the fewest wakings by which it does not LAPSE in these HOURS; of like ones each as late as may be, the first of "
-                + "the two ahead of the second.");
+        terms("the fewest wakings by which it does not LAPSE in these HOURS; of like ones each as late as may be, "
+                + "the first of the two ahead of the second.");
         GlassVows x = parishOf("person a 20 21 50;person b 20 21 50;glass g a b 3 1;grace 9;");
         due("8 hours may be waited", x.watch(0, 11), 0);
         due("in the ninth", x.watch(0, 12), 1);
@@ -222,8 +229,8 @@ public final class AskBoundaryChecks extends Checking {
     }
 
     private static void waking() {
-        promise(21, "Its k-th waking (from 0): 10 times the HOUR, and 0 the first, 1 the second of the two, by the latest watch() "
-                + "that was not NONE; NONE: none such, or ahead of any.");
+        promise(21, "Its k-th waking (from 0): 10 times the HOUR, and 0 the first, 1 the second of the two, by the "
+                + "latest watch() that was not NONE; NONE: none such, or ahead of any.");
         GlassVows x = parishOf("person a 20 21 50;person b 20 21 0;person c 0 0 50;person d 20 21 0;glass g b a 1 1;"
                 + "glass h c d 1 1;grace 1;");
         due("ahead of any", x.waking(0), NONE);
@@ -253,8 +260,8 @@ public final class AskBoundaryChecks extends Checking {
     // ---- promises 22 to 25 ----
 
     private static void chosen() {
-        terms("CHOSEN: the most GRAINS (1 to 250) by which, if the GLASS had them, all LEFT now, at the HOUR where it ENDS both "
-                + "are WILLING.");
+        terms("CHOSEN: the most GRAINS (1 to 250) by which, if the GLASS had them, all LEFT now, at the HOUR where "
+                + "it ENDS both are WILLING.");
         promise(22, "CHOSEN: how many GRAINS; NONE: by none, LAPSED, no such one.");
         due("250", parishOf(PAIR + "glass g a b 1 1;").chosen(0), 250);
         // by 9 an hour 250 end at 28, the rest 4; 244 to 250 do
@@ -322,15 +329,16 @@ public final class AskBoundaryChecks extends Checking {
     }
 
     private static void play() {
-        terms("in the 'grace' HOURS from that on in which it ENDS, HOUR by HOUR, the first, then the second of the two may turn "
-                + "it, if he is WILLING (FOND then as if it were not turned); each leaves it to who may later: so the last of "
-                + "these turns it.");
+        terms("in the 'grace' HOURS from that on in which it ENDS, HOUR by HOUR, the first, then the second of the "
+                + "two may turn it, if he is WILLING (FOND then as if it were not turned);"
+                + " each leaves it to who may later: so the last of these turns it.");
         String twoHours = "glass g a b 2 1;";
         playDue("one hour: the second", parishOf(PAIR + twoHours + "grace 1;"), 1, 2);
         playDue("nine hours", parishOf(PAIR + twoHours + "grace 9;"), 1, 10);
         playDue("the glass tells who is the second", parishOf(PAIR + "glass g b a 2 1;grace 1;"), 0, 2);
         playDue("the second is not fond", parishOf("person a 0 0 50;person b 0 0 49;" + twoHours), 0, 3);
-        playDue("the first of the hours alone", parishOf("person a 2 3 50;person b 0 0 0;" + twoHours + "grace 9;"), 0, 2);
+        playDue("the first of the hours alone", parishOf("person a 2 3 50;person b 0 0 0;" + twoHours + "grace 9;"),
+                0, 2);
         playDue("the last of the hours", parishOf("person a 10 11 50;person b 2 3 99;" + twoHours + "grace 9;"), 0, 10);
         playDue("an hour too late", parishOf("person a 11 12 50;person b 0 0 0;" + twoHours + "grace 9;"), NONE, NONE);
         playDue("an hour too soon", parishOf("person a 1 2 50;person b 0 0 0;" + twoHours + "grace 9;"), NONE, NONE);
@@ -364,7 +372,8 @@ public final class AskBoundaryChecks extends Checking {
 
     private static void steal() {
         terms("STEAL: the fewest GRAINS that must be SPILT now so that a GLASS is LAPSED at the beginning of HOUR h.");
-        promise(26, "STEAL by HOUR h (0 to 600): how many; NONE: by none, LAPSED, h is past (now or ahead of it), no such ones.");
+        promise(26, "STEAL by HOUR h (0 to 600): how many; NONE: by none, LAPSED, h is past (now or ahead of it), no "
+                + "such ones.");
         GlassVows x = parishOf(UNFOND);
         due("it lapses in 6", x.steal(0, 7), 0);
         due("an hour sooner", x.steal(0, 6), 2);
@@ -408,8 +417,8 @@ public final class AskBoundaryChecks extends Checking {
     }
 
     private static void goods() {
-        terms("PARTS of a GLASS: each of its GOODS to one of the two, so that the lesser one of both sums (each by what they are "
-                + "worth to him) is the greatest; of like ones the least GOODS of the first as bits.");
+        terms("PARTS of a GLASS: each of its GOODS to one of the two, so that the lesser one of both sums (each by "
+                + "what they are worth to him) is the greatest; of like ones the least GOODS of the first as bits.");
         String two = COLDS + "glass g a b 1 1;glass h c d 1 1;";
         partsDue("without goods", parishOf(two), 0, 0, 0);
         partsDue("one", parishOf(two + "good k g 9 9;"), 0, 0, 0);
@@ -437,7 +446,8 @@ public final class AskBoundaryChecks extends Checking {
             due("parted(" + g + ")", x.parted(g), NONE);
         }
         due("an empty parish", new GlassVows().parted(0), NONE);
-        promise(29, "Of a GOOD: 0 its GLASS, 1 what it is worth to the first, 2 to the second of the two; NONE: no such ones.");
+        promise(29, "Of a GOOD: 0 its GLASS, 1 what it is worth to the first, 2 to the second of the two;"
+                + " NONE: no such ones.");
         GlassVows y = parishOf(two + "good k h 0 99;good l g 99 0;");
         int[][] due = {{1, 0, 99}, {0, 99, 0}};
         for (int k = 0; k < 2; k++) {
@@ -463,7 +473,8 @@ public final class AskBoundaryChecks extends Checking {
 
     private static void law() {
         terms("LAW: the least 'grace' (1 to 9) by which none of some GLASSES LAPSES in n HOURS from now on.");
-        promise(30, "LAW for some GLASSES (bits), n (1 to 60) HOURS; NONE: by none, one is LAPSED already, no such ones.");
+        promise(30, "LAW for some GLASSES (bits), n (1 to 60) HOURS; NONE: by none, one is LAPSED already, no such "
+                + "ones.");
         GlassVows x = parishOf(UNFOND + "grace 9;");
         due("5 hours of sand", x.law(1, 5), 1);
         for (int n = 6; n <= 13; n++) {
@@ -499,9 +510,12 @@ public final class AskBoundaryChecks extends Checking {
         due("not the second", y.law(12, 1), 1);
         due("turned by who is willing", parishOf(PAIR + "glass g a b 1 1;").law(1, 60), 1);
         due("willing in the ninth hour", parishOf("person a 9 10 50;person b 0 0 0;glass g a b 1 1;").law(1, 10), 9);
-        due("willing in the tenth hour", parishOf("person a 10 11 50;person b 0 0 0;glass g a b 1 1;").law(1, 11), NONE);
+        due("willing in the tenth hour", parishOf("person a 10 11 50;person b 0 0 0;glass g a b 1 1;").law(1, 11),
+                NONE);
         GlassVows late = heldUntil(590, 9, "");
         due("to hour 599", late.law(1, 60), 2);
+        due("judged alone", rollOf(late, "hour 10;", 0), NONE);
+        due("to hour 599 still", late.law(1, 60), 2);
         live(late, 10);
         due("all are over", late.law(1, 60), 1);
         due("an empty parish", new GlassVows().law(0, 60), 1);
@@ -511,9 +525,9 @@ public final class AskBoundaryChecks extends Checking {
     // ---- promises 31 to 34 ----
 
     private static void rings() {
-        terms("RINGS of a GLASS by the tape (one byte: how many are LEFT): HOURS ago (0 to 24, as bits; none ahead of HOUR 0) at "
-                + "whose beginning all GRAINS may have been LEFT, so that now as many are as told, by its NECK and TILT of now "
-                + "and the damp.");
+        terms("RINGS of a GLASS by the tape (one byte: how many are LEFT): HOURS ago (0 to 24, as bits;"
+                + " none ahead of HOUR 0) at whose beginning all GRAINS may have been LEFT, so that now as many are "
+                + "as told, by its NECK and TILT of now and the damp.");
         GlassVows x = parishOf(COLD + "glass g a b 250 1;level;damp 3 3;");
         due("now, in hour 0", ringsOf(x, 0, 250), 1);
         due("not ahead of hour 0", ringsOf(x, 0, 249), 0);
@@ -560,9 +574,10 @@ public final class AskBoundaryChecks extends Checking {
     }
 
     private static void together() {
-        promise(32, "In how many of n (1 to 60) HOURS from now on both of the two are AWAKE (by FROM and TO; to HOUR 599); NONE: no "
-                + "such ones.");
-        GlassVows x = parishOf("person a 22 3 0;person b 1 23 0;person c 0 0 99;person d 5 6 0;glass g a b 1 1;glass h c d 1 1;");
+        promise(32, "In how many of n (1 to 60) HOURS from now on both of the two are AWAKE (by FROM and TO;"
+                + " to HOUR 599); NONE: no such ones.");
+        GlassVows x = parishOf("person a 22 3 0;person b 1 23 0;person c 0 0 99;person d 5 6 0;glass g a b 1 1;"
+                + "glass h c d 1 1;");
         int[] sums = {0, 0, 1, 2, 2};
         for (int n = 1; n < sums.length; n++) {
             due("together(0, " + n + ")", x.together(0, n), sums[n]);
@@ -598,8 +613,8 @@ public final class AskBoundaryChecks extends Checking {
     }
 
     private static void banns() {
-        terms("BANNS of a GLASS: the NAMES of the two, ' and ' between them, then, if it is LAPSED, ' no more', else ' for ', as "
-                + "digits how many HOURS from now on till it ENDS; if it does not, ' for good'.");
+        terms("BANNS of a GLASS: the NAMES of the two, ' and ' between them, then, if it is LAPSED, ' no more', else "
+                + "' for ', as digits how many HOURS from now on till it ENDS; if it does not, ' for good'.");
         GlassVows x = parishOf("person z 0 0 0;person abcdefg 0 0 0;person aa 0 0 0;person zzzzzzz 0 0 0;"
                 + "glass g z abcdefg 250 1;glass h zzzzzzz aa 100 1;level;");
         due("250", bannsOf(x, 0), "z and abcdefg for 250");
@@ -676,12 +691,12 @@ public final class AskBoundaryChecks extends Checking {
     }
 
     private static void drawn() {
-        terms("for each draw of n x becomes x * 1103515245 + 12345 (an int, wrapping), the draw is (x >>> 8) % n: each HOUR: "
-                + "PERSON by PERSON: a draw of 12: 0: a draw of 10: he woos by 1 more than that, if he can; 1: he turns, if he "
-                + "can; 2: he is WOKEN, if he can; then GLASS by GLASS: a draw of 30: 0: a draw of 20: 1 more than that is SPILT, "
-                + "if it can; then the HOUR.");
-        String text = "person a 5 20 40;person b 0 0 30;person c 7 9 45;person d 3 4 49;person e 0 0 0;glass g a b 12 5;"
-                + "glass h d c 40 2;early;warms a 3;grace 3;";
+        terms("for each draw of n x becomes x * 1103515245 + 12345 (an int, wrapping), the draw is (x >>> 8) % n: "
+                + "each HOUR: PERSON by PERSON: a draw of 12: 0: a draw of 10: he woos by 1 more than that, if he "
+                + "can; 1: he turns, if he can; 2: he is WOKEN, if he can; then GLASS by GLASS: a draw of 30: 0: a "
+                + "draw of 20: 1 more than that is SPILT, if it can; then the HOUR.");
+        String text = "person a 5 20 40;person b 0 0 30;person c 7 9 45;person d 3 4 49;person e 0 0 0;"
+                + "glass g a b 12 5;glass h d c 40 2;early;warms a 3;grace 3;";
         for (int seed : new int[] {0, 1, -1, LEAST, MOST, 77, 4242, -987654321}) {
             GlassVows x = parishOf(text);
             GlassVows y = parishOf(text);
@@ -706,14 +721,14 @@ public final class AskBoundaryChecks extends Checking {
         x.undo();
         due("591", x.now(0), 591);
         due("9 of 9", x.drawn(9, 1), 9);
-        promise(36, "Of n (1 to 30) seeds x, x and 1, .. by how many a GLASS is not LAPSED behind 48 HOURS DRAWN from now on; NONE: "
-                + "no such ones.");
+        promise(36, "Of n (1 to 30) seeds x, x and 1, .. by how many a GLASS is not LAPSED behind 48 HOURS DRAWN "
+                + "from now on; NONE: no such ones.");
         odds();
     }
 
     private static void odds() {
-        GlassVows x = parishOf("person a 0 0 30;person b 0 0 30;person c 0 0 0;person d 0 0 0;glass g a b 40 1;glass h c d 1 1;"
-                + "grace 3;");
+        GlassVows x = parishOf("person a 0 0 30;person b 0 0 30;person c 0 0 0;person d 0 0 0;glass g a b 40 1;"
+                + "glass h c d 1 1;grace 3;");
         int sum = 0;
         for (int k = 0; k < 30; k++) {
             x.drawn(48, MOST - 14 + k);
@@ -751,8 +766,9 @@ public final class AskBoundaryChecks extends Checking {
     // ---- promises 37 to 40 ----
 
     private static void roll() {
-        promise(37, "The tape is a ROLL: it is judged, all staying as it is (lives 0), or lived as far as it is not WRONG (1): the LINE "
-                + "that is WRONG; NONE: none; -2 less the place of a FAULT; -1000: another lives (the tape stays).");
+        promise(37, "The tape is a ROLL: it is judged, all staying as it is (lives 0), or lived as far as it is not "
+                + "WRONG (1): the LINE that is WRONG; NONE: none; -2 less the place of a FAULT;"
+                + " -1000: another lives (the tape stays).");
         GlassVows x = parishOf(UNFOND);
         String before = stateOf(x);
         tell(x, "hour 3;g spills 1;a turns;hour 1;");
@@ -790,9 +806,9 @@ public final class AskBoundaryChecks extends Checking {
     }
 
     private static void rolled() {
-        promise(38, "0 why it was WRONG (0: it was not; as for turning, 10 more as for waking, 20 for wooing, 30 for tilting, 40 for "
-                + "widening, 50 for spilling; 61: fewer HOURS are left), 1 LINES that are not, 2 the HOUR then, 3 who is LAPSED "
-                + "then, as bits. NONE: another what, or ahead of any.");
+        promise(38, "0 why it was WRONG (0: it was not; as for turning, 10 more as for waking, 20 for wooing, 30 for "
+                + "tilting, 40 for widening, 50 for spilling; 61: fewer HOURS are left), 1 LINES that are not, 2 the "
+                + "HOUR then, 3 who is LAPSED then, as bits. NONE: another what, or ahead of any.");
         GlassVows x = parishOf("person a 5 6 50;person b 0 0 0;person c 5 6 0;glass g a b 10 5;");
         for (int what = 0; what < 4; what++) {
             due("ahead of any", x.rolled(what), NONE);
@@ -845,8 +861,8 @@ public final class AskBoundaryChecks extends Checking {
     }
 
     private static void sentence() {
-        promise(39, "The tape is the SENTENCE now: how many ONES (each not, bracket and other one); -1 less the place of a FAULT: it "
-                + "stays.");
+        promise(39, "The tape is the SENTENCE now: how many ONES (each not, bracket and other one);"
+                + " -1 less the place of a FAULT: it stays.");
         GlassVows x = parishOf(UNFOND);
         due("one", sentenceOf(x, "run"), 1);
         due("not and bracket", sentenceOf(x, "not(not run)"), 4);
@@ -861,7 +877,8 @@ public final class AskBoundaryChecks extends Checking {
         tell(x, "early;early;");
         x.parish();
         due("it stays, if the parish does", x.said(0), 0);
-        promise(40, "GLASSES of which it may be said: how many (k NONE), or the k-th. NONE: there is no SENTENCE, none such.");
+        promise(40, "GLASSES of which it may be said: how many (k NONE), or the k-th. NONE: there is no SENTENCE, "
+                + "none such.");
         GlassVows y = parishOf(EIGHT + "glass g a b 5 1;glass h c d 250 1;glass k e f 250 1;glass l i j 1 1;");
         for (int k : new int[] {-1, 0, 1}) {
             due("no sentence: said(" + k + ")", y.said(k), NONE);
@@ -891,10 +908,11 @@ public final class AskBoundaryChecks extends Checking {
     }
 
     private static void sayings() {
-        terms("'lapsed' | 'run' (no sand is left above) | 'aslant' (tilted, not level) | 'both' (both are AWAKE now) | 'of' "
-                + "PERSON (one of the two)");
-        GlassVows x = parishOf("person a 0 0 50;person b 5 6 0;person c 0 0 0;person d 0 0 0;person e 0 0 0;person f 0 0 0;"
-                + "person i 0 0 0;person j 0 0 0;glass g a b 2 1;glass h d c 1 1;glass k e f 250 9;level;");
+        terms("'lapsed' | 'run' (no sand is left above) | 'aslant' (tilted, not level) | 'both' (both are AWAKE now) "
+                + "| 'of' PERSON (one of the two)");
+        GlassVows x = parishOf("person a 0 0 50;person b 5 6 0;person c 0 0 0;person d 0 0 0;person e 0 0 0;"
+                + "person f 0 0 0;person i 0 0 0;person j 0 0 0;glass g a b 2 1;glass h d c 1 1;glass k e f 250 9;"
+                + "level;");
         x.tilt(2, 1);
         x.hours(2);
         due("none is lapsed yet", saidBy(x, "lapsed"), 0);
@@ -913,7 +931,8 @@ public final class AskBoundaryChecks extends Checking {
         due("the first", saidBy(x, "of d"), 2);
         due("the second", saidBy(x, "of c"), 2);
         due("not wed", saidBy(x, "of i"), 0);
-        terms("( 'left' | 'neck' | 'turned' | 'number' ) SIGN NUMBER (how often it was turned so far; its number). SIGN: < = >.");
+        terms("( 'left' | 'neck' | 'turned' | 'number' ) SIGN NUMBER (how often it was turned so far;"
+                + " its number). SIGN: < = >.");
         due("left", x.glass(0, 4) * 1000 + x.glass(2, 4), 1238);
         due("below", saidBy(x, "left<238"), 3);
         due("below one more", saidBy(x, "left<239"), 7);
@@ -949,8 +968,8 @@ public final class AskBoundaryChecks extends Checking {
 
     private static void image() {
         promise(41, "PARISH, all that is so and the SENTENCE are kept in place k (0, 1): true; false: no such one.");
-        GlassVows x = parishOf("person a 5 6 50;person b 0 0 9;glass g a b 10 5;good k g 3 4;damp 1 2;early;level;grace 9;wish 7;"
-                + "warms b 3;cools a 2;");
+        GlassVows x = parishOf("person a 5 6 50;person b 0 0 9;glass g a b 10 5;good k g 3 4;damp 1 2;early;level;"
+                + "grace 9;wish 7;warms b 3;cools a 2;");
         for (int k : new int[] {2, -1, LEAST, MOST}) {
             due("image(" + k + ")", x.image(k), false);
         }
@@ -959,8 +978,7 @@ public final class AskBoundaryChecks extends Checking {
         x.widen(0, 2);
         live(x, 30);
         x.wake(0);
-        String first = stateOf(x);
-        int end = x.ends(0);
+        String first = answersOf(x);
         due("kept", x.image(0), true);
         tell(x, UNFOND);
         x.parish();
@@ -968,11 +986,10 @@ public final class AskBoundaryChecks extends Checking {
         String second = stateOf(x);
         due("kept", x.image(1), true);
         x.parish();
-        promise(42, "They are as kept in place k (the tape, and what other calls told last, stays; nothing can be undone): true; "
-                + "false: no such one, or nothing is kept there.");
+        promise(42, "They are as kept in place k (the tape, and what other calls told last, stays;"
+                + " nothing can be undone): true; false: no such one, or nothing is kept there.");
         due("restored", x.restore(0), true);
-        due("all as kept", stateOf(x), first);
-        due("it goes on likewise", x.ends(0), end);
+        due("all as kept", answersOf(x), first);
         due("its goods", x.good(0, 2), 4);
         due("its sentence", x.said(0), 0);
         due("its names", rollOf(x, "a woos 1;b woos 1;", 0), NONE);
@@ -987,7 +1004,28 @@ public final class AskBoundaryChecks extends Checking {
         x.hours(1);
         x.restore(0);
         due("the later one", stateOf(x), second);
+        fullImage();
         restored();
+    }
+
+    /** What is kept is kept of all of eight persons and four glasses. */
+    private static void fullImage() {
+        GlassVows x = parishOf(EIGHT + "glass g a b 9 1;glass h c d 9 1;glass k e f 9 1;glass l i j 9 1;early;"
+                + "good m l 1 2;wish 2;");
+        x.hours(2);
+        x.woo(7, 3);
+        x.woo(6, 4);
+        x.turn(7);
+        x.tilt(3, 1);
+        x.hours(1);
+        String kept = stateOf(x);
+        String banns = bannsOf(x, 3);
+        x.image(1);
+        x.parish();
+        due("restored", x.restore(1), true);
+        due("all as kept", stateOf(x), kept);
+        due("the names, too", bannsOf(x, 3), banns);
+        due("the goods, too", x.good(0, 2), 2);
     }
 
     private static void restored() {
@@ -1023,10 +1061,10 @@ public final class AskBoundaryChecks extends Checking {
     }
 
     private static void count() {
-        promise(43, "0 PERSONS, 1 GLASSES, 2 GOODS, 3 'grace', 4 'wish', 5 'early' (1, 0), 6 'level' (1, 0), 7 'damp', 8 bytes of the "
-                + "tape. NONE for another what.");
-        GlassVows x = parishOf(EIGHT + "glass g a b 5 1;glass h c d 250 1;glass k e f 250 1;glass l i j 1 1;"
-                + "damp 1 1;damp 1 1;damp 1 1;damp 1 1;damp 1 1;damp 1 1;good m g 1 1;good n g 1 1;good o g 1 1;good p g 1 1;"
+        promise(43, "0 PERSONS, 1 GLASSES, 2 GOODS, 3 'grace', 4 'wish', 5 'early' (1, 0), 6 'level' (1, 0), 7 "
+                + "'damp', 8 bytes of the tape. NONE for another what.");
+        GlassVows x = parishOf(EIGHT + "glass g a b 5 1;glass h c d 250 1;glass k e f 250 1;glass l i j 1 1;damp 1 1;"
+                + "damp 1 1;damp 1 1;damp 1 1;damp 1 1;damp 1 1;good m g 1 1;good n g 1 1;good o g 1 1;good p g 1 1;"
                 + "good q g 1 1;good r g 1 1;grace 9;wish 0;early;level;");
         int[] full = {8, 4, 6, 9, 0, 1, 1, 6, 0};
         int[] empty = {0, 0, 0, 2, 50, 0, 0, 0, 0};

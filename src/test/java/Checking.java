@@ -6,9 +6,9 @@ import java.util.Set;
 import java.util.TreeSet;
 
 /**
- * What the boundary checks have in common. Each check stands below the words of the document that it holds the class
- * to: terms() and promise() quote them, and a quote that is not in the document is told as wrong, so that a check can
- * be found by its sentence, and no check stands for a sentence that is not there (any more).
+ * What the checks by hand have in common. A boundary check stands below the words of the document that it holds the
+ * class to: terms() and promise() quote them, and a quote that is not in the document is told as wrong, so that a check
+ * can be found by its sentence, and no check stands for a sentence that is not there (any more).
  */
 class Checking {
     static final int NONE = -1;
@@ -58,6 +58,11 @@ class Checking {
     static void promise(int number, String sentence) {
         QUOTED.add(number);
         quote("Promise " + number + ":", sentence);
+    }
+
+    /** The checks that follow hold the class to a promise as a whole. */
+    static void promise(int number) {
+        words = "promise " + number;
     }
 
     static void quotesAreDue(int from, int to) {
@@ -190,6 +195,25 @@ class Checking {
             for (int what = 0; what < 10; what++) {
                 s.append(x.glass(g, what)).append(' ');
             }
+        }
+        return s.toString();
+    }
+
+    /** All that is asked by what would go on, as one text; some 60 calls for each glass. */
+    static String answersOf(GlassVows x) {
+        StringBuilder s = new StringBuilder(stateOf(x));
+        s.append(x.soonest()).append(" ").append(x.said(NONE));
+        for (int k = 0; k < x.count(2); k++) {
+            s.append(' ').append(x.good(k, 0)).append(' ').append(x.good(k, 1)).append(' ').append(x.good(k, 2));
+        }
+        for (int g = 0; g < x.count(1); g++) {
+            int[] answers = {x.ends(g), x.lapses(g), x.watch(g, 60), x.waking(0), x.chosen(g), x.choices(g), x.play(g),
+                x.playAt(g), x.steal(g, x.now(0) + 9), x.steal(g, 600), x.parts(g), x.parted(g), x.law(1 << g, 20),
+                x.together(g, 60), x.odds(g, 5, 7), ringsOf(x, g, x.glass(g, 4))};
+            for (int answer : answers) {
+                s.append(' ').append(answer);
+            }
+            s.append(' ').append(bannsOf(x, g));
         }
         return s.toString();
     }

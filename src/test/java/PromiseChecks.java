@@ -1,45 +1,8 @@
-import java.util.NoSuchElementException;
-
 /** At least one check for each promise of the document: ordinary inputs, its edges, and wrong inputs. */
-public final class PromiseChecks {
-    private static final int NONE = -1;
+public final class PromiseChecks extends Checking {
     private static final String PARISH = "person ann 6 22 60;person bob 8 23 40;person cal 0 0 70;"
             + "person dot 20 4 80;warms bob 5;cools cal 3;glass vow ann bob 30 4;glass oath cal dot 10 1;"
             + "damp 5 9;good cow vow 9 4;good pot vow 3 3;good bed vow 5 8;wish 50;grace 2;level;";
-    /** Nobody is ever willing, so every glass lapses in its second hour without sand. */
-    private static final String UNFOND = "person a 0 0 0;person b 0 0 0;person c 0 0 0;glass g a b 10 2;";
-
-    private static int wrong = 0;
-    private static int promise = 0;
-
-    private static void due(String what, long got, long want) {
-        if (got != want) {
-            wrong++;
-            System.out.println("promise " + promise + ": " + what + " answered " + got + ", due is " + want);
-        }
-    }
-
-    private static void due(String what, boolean got, boolean want) {
-        due(what, got ? 1 : 0, want ? 1 : 0);
-    }
-
-    private static void tell(GlassVows x, String text) {
-        for (int i = 0; i < text.length(); i += 20) {
-            int[] n = new int[5];
-            for (int j = 0; j < 20; j++) {
-                n[j / 4] = n[j / 4] << 8 | (i + j < text.length() ? text.charAt(i + j) & 255 : 0);
-            }
-            x.feed(n[0], n[1], n[2], n[3], n[4]);
-        }
-        due("end(" + text.length() + ")", x.end(text.length()), true);
-    }
-
-    private static GlassVows parishOf(String text) {
-        GlassVows x = new GlassVows();
-        tell(x, text);
-        due("parish() of " + text, x.parish() >= 0, true);
-        return x;
-    }
 
     /** A parish that was told, then a FAULT: the place and the kind. */
     private static void faultOfParish(String text, int place, int kind) {
@@ -73,58 +36,13 @@ public final class PromiseChecks {
         due("count(8): the tape is empty", x.count(8), 0);
     }
 
-    private static int saidBy(GlassVows x, String text) {
-        tell(x, text);
-        due("sentence() of " + text, x.sentence() > 0, true);
-        int bits = 0;
-        for (int k = 0; k < x.said(NONE); k++) {
-            bits |= 1 << x.said(k);
-        }
-        return bits;
-    }
-
-    private static int rollOf(GlassVows x, String text, int lives) {
-        tell(x, text);
-        return x.roll(lives);
-    }
-
-    private static String bannsOf(GlassVows x, int g) {
-        StringBuilder s = new StringBuilder();
-        int n = x.banns(g);
-        for (int i = 0; i < n; i++) {
-            s.append((char) x.byteAt(i));
-        }
-        return s.toString();
-    }
-
     private static void bannsDue(GlassVows x, int g, String want) {
-        String got = bannsOf(x, g);
-        if (!got.equals(want)) {
-            wrong++;
-            System.out.println("promise 33: banns(" + g + ") are '" + got + "', due is '" + want + "'");
-        }
-    }
-
-    private static boolean personThrows(GlassVows x, int p, int what) {
-        try {
-            x.person(p, what);
-            return false;
-        } catch (NoSuchElementException e) {
-            return true;
-        }
-    }
-
-    private static boolean glassThrows(GlassVows x, int g, int what) {
-        try {
-            x.glass(g, what);
-            return false;
-        } catch (NoSuchElementException e) {
-            return true;
-        }
+        promise(33);
+        due("banns(" + g + ")", bannsOf(x, g), want);
     }
 
     private static void aNewObject() {
-        promise = 1;
+        promise(1);
         GlassVows x = new GlassVows();
         int[] want = {0, 0, 0, 2, 50, 0, 0, 0, 0};
         for (int what = 0; what < want.length; what++) {
@@ -138,7 +56,7 @@ public final class PromiseChecks {
     }
 
     private static void feedAndEnd() {
-        promise = 2;
+        promise(2);
         GlassVows x = new GlassVows();
         due("feed", x.feed(0x67726163, 0x65203734, 0x3b000000, 0, 0), 20);
         for (int n = 40; n <= 940; n += 20) {
@@ -146,23 +64,23 @@ public final class PromiseChecks {
         }
         due("feed above 940", x.feed(0, 0, 0, 0, 0), NONE);
         due("none came", x.count(8), 940);
-        promise = 3;
+        promise(3);
         due("end(941)", x.end(941), false);
         due("end(-1)", x.end(-1), false);
         due("end(MIN)", x.end(Integer.MIN_VALUE), false);
         due("count(8)", x.count(8), 940);
         due("end(940)", x.end(940), true);
         due("end(921)", x.end(921), true);
-        promise = 2;
+        promise(2);
         due("feed would be 941", x.feed(0, 0, 0, 0, 0), NONE);
-        promise = 3;
+        promise(3);
         due("end(8)", x.end(8), true);
         due("end(9)", x.end(9), false);
-        promise = 2;
+        promise(2);
         due("the highest byte is first", x.feed(0x3b202020, 0x20202020, 0x20202020, 0x20202020, 0x20202020), 28);
         due("parish() of 'grace 74;': a number that is not as told", x.parish(), -7);
         x.feed(0x67726163, 0x6520373b, 0, 0, 0);
-        promise = 3;
+        promise(3);
         due("end(8)", x.end(8), true);
         due("parish() of 'grace 7;'", x.parish(), 1);
         due("count(3)", x.count(3), 7);
@@ -171,7 +89,7 @@ public final class PromiseChecks {
     }
 
     private static void parishes() {
-        promise = 4;
+        promise(4);
         GlassVows x = parishOf(PARISH);
         String text = "person a 0 23 0;\n person b 23 0 99 ; glass g b a 250 9;";
         tell(x, text + "glassy");
@@ -202,7 +120,7 @@ public final class PromiseChecks {
     }
 
     private static void faultsOfTokens() {
-        promise = 4;
+        promise(4);
         faultOfParish("x", 0, 1);
         faultOfParish(" ;", 1, 1);
         faultOfParish("early", 5, 1);
@@ -304,7 +222,7 @@ public final class PromiseChecks {
     }
 
     private static void aNewParish() {
-        promise = 4;
+        promise(4);
         GlassVows x = parishOf("person a 5 6 70;person b 0 0 70;person c 5 6 70;person d 0 0 0;warms a 9;cools b 9;"
                 + "glass g a b 3 3;glass h c d 1 1;good k g 1 1;damp 0 599;grace 1;wish 70;early;level;");
         x.tilt(0, 2);
@@ -345,7 +263,7 @@ public final class PromiseChecks {
     }
 
     private static void faults() {
-        promise = 5;
+        promise(5);
         GlassVows x = parishOf(PARISH);
         due("without one", x.fault(), 0);
         tell(x, "wish 100;");
@@ -367,7 +285,7 @@ public final class PromiseChecks {
     }
 
     private static void persons() {
-        promise = 6;
+        promise(6);
         GlassVows x = parishOf(PARISH + "person eve 5 5 50;");
         int[] ann = {0, 60, 0, 1, 0, 0};
         int[] dot = {1, 80, 1, 2, 0, 1};
@@ -406,7 +324,7 @@ public final class PromiseChecks {
     }
 
     private static void glasses() {
-        promise = 7;
+        promise(7);
         GlassVows x = parishOf(PARISH);
         int[] vow = {0, 1, 30, 4, 30, 0, 0, 0, 0, 4};
         for (int what = 0; what < 10; what++) {
@@ -452,7 +370,7 @@ public final class PromiseChecks {
     }
 
     private static void nows() {
-        promise = 8;
+        promise(8);
         GlassVows x = parishOf(PARISH);
         int[] atFirst = {0, 0, 0, 12, 0, 40};
         for (int what = 0; what < 6; what++) {
@@ -482,7 +400,7 @@ public final class PromiseChecks {
     }
 
     private static void turns() {
-        promise = 9;
+        promise(9);
         GlassVows x = parishOf("person a 0 0 0;person b 6 7 0;person c 0 0 0;glass g a b 10 3;");
         due("no such", x.turn(3), NONE);
         due("no such", x.turn(-1), NONE);
@@ -514,7 +432,7 @@ public final class PromiseChecks {
     }
 
     private static void wakes() {
-        promise = 10;
+        promise(10);
         GlassVows x = parishOf(PARISH);
         due("no such", x.wake(4), NONE);
         due("no such", x.wake(-1), NONE);
@@ -534,7 +452,7 @@ public final class PromiseChecks {
     }
 
     private static void woos() {
-        promise = 11;
+        promise(11);
         GlassVows x = parishOf(PARISH + "person eve 0 0 0;");
         due("no such", x.woo(5, 1), NONE);
         due("no such", x.woo(-1, 1), NONE);
@@ -553,7 +471,7 @@ public final class PromiseChecks {
     }
 
     private static void tilts() {
-        promise = 12;
+        promise(12);
         GlassVows x = parishOf(UNFOND);
         due("no such", x.tilt(1, 1), NONE);
         due("no such", x.tilt(-1, 1), NONE);
@@ -574,7 +492,7 @@ public final class PromiseChecks {
     }
 
     private static void widens() {
-        promise = 13;
+        promise(13);
         GlassVows x = parishOf(UNFOND);
         due("no such", x.widen(1, 1), NONE);
         due("no such", x.widen(-1, 1), NONE);
@@ -589,7 +507,7 @@ public final class PromiseChecks {
     }
 
     private static void spills() {
-        promise = 14;
+        promise(14);
         GlassVows x = parishOf(UNFOND);
         due("no such", x.spill(1, 1), NONE);
         due("no such", x.spill(-1, 1), NONE);
@@ -607,7 +525,7 @@ public final class PromiseChecks {
     }
 
     private static void hoursGo() {
-        promise = 15;
+        promise(15);
         GlassVows x = parishOf(PARISH);
         due("0", x.hours(0), NONE);
         due("-1", x.hours(-1), NONE);
@@ -636,7 +554,7 @@ public final class PromiseChecks {
     }
 
     private static void undos() {
-        promise = 16;
+        promise(16);
         GlassVows x = parishOf(PARISH);
         due("none", x.undo(), NONE);
         x.turn(0);
@@ -696,7 +614,7 @@ public final class PromiseChecks {
     }
 
     private static void undosOfRolls() {
-        promise = 16;
+        promise(16);
         GlassVows x = new GlassVows();
         due("a roll without lines", x.roll(1), NONE);
         due("nothing of it was lived", x.undo(), NONE);
@@ -734,7 +652,7 @@ public final class PromiseChecks {
     }
 
     private static void endings() {
-        promise = 17;
+        promise(17);
         GlassVows x = parishOf(PARISH);
         due("ends(0)", x.ends(0), 10);
         due("ends(1)", x.ends(1), 10);
@@ -761,7 +679,7 @@ public final class PromiseChecks {
         due("ends at 593: turned at 98, 197, 296, 395, 494", z.ends(0), 593);
         z.hours(54);
         due("not by 599", z.ends(0), NONE);
-        promise = 18;
+        promise(18);
         due("lapses(0)", parishOf(PARISH).lapses(0), 29);
         due("lapses(1)", parishOf(PARISH).lapses(1), 176);
         due("no such", z.lapses(1), NONE);
@@ -778,7 +696,7 @@ public final class PromiseChecks {
         w.hours(1);
         w.wake(0);
         due("who is woken now turns it now", w.lapses(0), 3);
-        promise = 19;
+        promise(19);
         due("soonest()", parishOf(PARISH).soonest(), 0);
         due("none does", z.soonest(), NONE);
         due("a lapsed one does not", y.soonest(), NONE);
@@ -789,18 +707,18 @@ public final class PromiseChecks {
     }
 
     private static void watches() {
-        promise = 20;
+        promise(20);
         GlassVows x = parishOf(PARISH);
         due("one hour", x.watch(0, 1), 0);
         due("no such", x.watch(2, 1), NONE);
         due("no such", x.watch(-1, 1), NONE);
         due("0 hours", x.watch(0, 0), NONE);
         due("61 hours", x.watch(0, 61), NONE);
-        promise = 21;
+        promise(21);
         due("ahead of any", x.waking(0), NONE);
-        promise = 20;
+        promise(20);
         due("30 hours", x.watch(0, 30), 1);
-        promise = 21;
+        promise(21);
         due("as late as may be, the first", x.waking(0), 290);
         due("none such", x.waking(1), NONE);
         due("none such", x.waking(-1), NONE);
@@ -809,7 +727,7 @@ public final class PromiseChecks {
         due("none are needed", x.watch(0, 29), 0);
         due("none such", x.waking(0), NONE);
         due("none of this comes to be", x.now(0) + x.now(4), 0);
-        promise = 20;
+        promise(20);
         due("unfond ones can't", parishOf(UNFOND).watch(0, 7), NONE);
         due("not needed yet", parishOf(UNFOND).watch(0, 6), 0);
         GlassVows l = parishOf(UNFOND);
@@ -821,40 +739,40 @@ public final class PromiseChecks {
     private static void fewestWakings() {
         // Without sand at 2; a is fond but asleep till 8, b is not fond: grace 3 lets it wait till 4.
         GlassVows x = parishOf("person a 8 9 50;person b 0 0 0;glass g a b 2 1;grace 3;");
-        promise = 20;
+        promise(20);
         due("woken at 4: sand till 7, awake at 8", x.watch(0, 9), 1);
-        promise = 21;
+        promise(21);
         due("the last of three hours", x.waking(0), 40);
         GlassVows y = parishOf("person a 0 0 0;person b 8 9 50;glass g a b 2 1;grace 3;");
-        promise = 20;
+        promise(20);
         due("the second", y.watch(0, 9), 1);
-        promise = 21;
+        promise(21);
         due("the second of the two", y.waking(0), 41);
         // Without sand at 1, 3 grains: woken at 2 it is without sand at 6 and a turns it himself,
         // woken as late as 3 it is so at 7, when he is asleep again.
         GlassVows z = parishOf("person a 6 7 50;person b 0 0 0;glass g a b 3 3;grace 3;");
         z.tilt(0, 1);
         z.spill(0, 2);
-        promise = 20;
+        promise(20);
         due("an earlier waking may save a later one", z.watch(0, 10), 1);
-        promise = 21;
+        promise(21);
         due("as late as may be of the fewest", z.waking(0), 20);
         // a is not fond any more from hour 24 on, so it must be woken at 23, though grace lasts till 25.
         GlassVows w = parishOf("person a 1 2 50;person b 0 0 0;cools a 1;glass g a b 23 1;grace 3;");
-        promise = 20;
+        promise(20);
         due("fond for an hour more", w.watch(0, 30), 1);
-        promise = 21;
+        promise(21);
         due("while he is fond", w.waking(0), 230);
         GlassVows v = parishOf("person a 12 13 50;person b 12 13 50;glass g a b 1 1;grace 1;");
-        promise = 20;
+        promise(20);
         due("every other hour", v.watch(0, 11), 5);
-        promise = 21;
+        promise(21);
         for (int k = 0; k < 5; k++) {
             due("waking(" + k + ")", v.waking(k), 10 * (2 * k + 1));
         }
         v.hours(1);
         v.wake(1);
-        promise = 20;
+        promise(20);
         due("who is woken now is willing now", v.watch(0, 2), 0);
         v.hours(60);
         due("lapsed at 3", v.glass(0, 6), 1);
@@ -862,99 +780,99 @@ public final class PromiseChecks {
         s.spill(0, 9);
         s.hours(2);
         due("two hours are waited already", s.watch(0, 2), 1);
-        promise = 21;
+        promise(21);
         due("now or never", s.waking(0), 20);
     }
 
     private static void choicesOfGrains() {
         GlassVows x = parishOf(PARISH);
-        promise = 22;
+        promise(22);
         due("chosen(0)", x.chosen(0), 250);
-        promise = 23;
+        promise(23);
         due("choices(0)", x.choices(0), 40);
         // Runs 2 an hour; both are willing at the rests 3 and 4 alone; behind hour 47 b is not fond any more.
         GlassVows y = parishOf("person a 3 6 50;person b 1 5 52;cools b 2;glass g a b 200 2;");
-        promise = 22;
+        promise(22);
         due("ends at 28 by 55 or 56", y.chosen(0), 56);
-        promise = 23;
+        promise(23);
         due("at 3, 4, 27, 28 by two each", y.choices(0), 8);
         y.hours(4);
-        promise = 22;
+        promise(22);
         due("ends at 28 by 47 or 48 from now on", y.chosen(0), 48);
-        promise = 23;
+        promise(23);
         due("not now, with 1 grain at least", y.choices(0), 4);
-        promise = 22;
+        promise(22);
         due("none", parishOf(UNFOND).chosen(0), NONE);
         due("no such", y.chosen(1), NONE);
         due("no such", y.chosen(-1), NONE);
-        promise = 23;
+        promise(23);
         due("none", parishOf(UNFOND).choices(0), 0);
         due("no such", y.choices(1), NONE);
         due("no such", y.choices(-1), NONE);
         GlassVows u = parishOf(UNFOND);
         u.hours(7);
         due("lapsed", u.choices(0), NONE);
-        promise = 22;
+        promise(22);
         due("lapsed", u.chosen(0), NONE);
         GlassVows v = parishOf("person a 0 0 50;person b 0 0 50;glass g a b 1 9;");
         due("all", v.chosen(0), 250);
-        promise = 23;
+        promise(23);
         due("all", v.choices(0), 250);
         for (int i = 0; i < 9; i++) {
             v.hours(60);
         }
         v.hours(50);
         due("ends by 599: 9 hours of 9", v.choices(0), 81);
-        promise = 22;
+        promise(22);
         due("ends by 599", v.chosen(0), 81);
     }
 
     private static void plays() {
         GlassVows x = parishOf(PARISH);
-        promise = 24;
+        promise(24);
         due("play(0)", x.play(0), 0);
         due("play(1): dot is asleep", x.play(1), 2);
         due("no such", x.play(2), NONE);
         due("no such", x.play(-1), NONE);
-        promise = 25;
+        promise(25);
         due("playAt(0)", x.playAt(0), 11);
         due("playAt(1)", x.playAt(1), 11);
         due("no such", x.playAt(2), NONE);
         due("no such", x.playAt(-1), NONE);
         GlassVows y = parishOf("person a 4 6 50;person b 3 5 50;glass g a b 3 1;grace 5;");
-        promise = 24;
+        promise(24);
         due("ends at 3; b at 3, a and b at 4, a at 5", y.play(0), 0);
-        promise = 25;
+        promise(25);
         due("the last", y.playAt(0), 5);
         GlassVows z = parishOf("person a 4 6 50;person b 3 5 50;glass g a b 3 1;grace 2;");
-        promise = 24;
+        promise(24);
         due("in one hour the second is later", z.play(0), 1);
-        promise = 25;
+        promise(25);
         due("the last of the grace", z.playAt(0), 4);
         GlassVows u = parishOf(UNFOND);
         due("nobody", u.playAt(0), NONE);
-        promise = 24;
+        promise(24);
         due("nobody", u.play(0), NONE);
         x.tilt(0, 2);
         due("it does not end", x.play(0), NONE);
-        promise = 25;
+        promise(25);
         due("it does not end", x.playAt(0), NONE);
         GlassVows w = parishOf("person a 0 0 50;person b 0 0 50;cools b 1;glass g a b 23 1;");
         due("b is less fond from 24 on", w.playAt(0), 24);
-        promise = 24;
+        promise(24);
         due("so a is the last", w.play(0), 0);
         GlassVows v = parishOf("person a 0 0 99;person b 0 0 99;glass g a b 98 1;grace 9;");
         for (int i = 0; i < 9; i++) {
             v.hours(60);
         }
-        promise = 25;
+        promise(25);
         due("to hour 599", v.playAt(0), 599);
         u.hours(9);
         due("lapsed", u.playAt(0), NONE);
     }
 
     private static void steals() {
-        promise = 26;
+        promise(26);
         GlassVows x = parishOf(PARISH);
         due("by 8", x.steal(0, 8), 14);
         due("by 6", x.steal(0, 6), 14);
@@ -981,17 +899,17 @@ public final class PromiseChecks {
 
     private static void parting() {
         GlassVows x = parishOf(PARISH);
-        promise = 27;
+        promise(27);
         due("9 and 11", x.parts(0), 9);
         due("no goods", x.parts(1), 0);
         due("no such", x.parts(2), NONE);
         due("no such", x.parts(-1), NONE);
-        promise = 28;
+        promise(28);
         due("the cow", x.parted(0), 1);
         due("none", x.parted(1), 0);
         due("no such", x.parted(2), NONE);
         due("no such", x.parted(-1), NONE);
-        promise = 29;
+        promise(29);
         int[][] goods = {{0, 9, 4}, {0, 3, 3}, {0, 5, 8}};
         for (int k = 0; k < 3; k++) {
             for (int what = 0; what < 3; what++) {
@@ -1004,21 +922,21 @@ public final class PromiseChecks {
         due("no such", x.good(0, -1), NONE);
         GlassVows y = parishOf("person a 0 0 0;person b 0 0 0;person c 0 0 0;person d 0 0 0;glass g a b 1 1;"
                 + "glass h c d 1 1;good k h 5 5;good l g 1 99;good m h 5 5;good n g 7 2;good o h 0 0;grace 1;");
-        promise = 27;
+        promise(27);
         due("7 and 99", y.parts(0), 7);
         due("5 and 5", y.parts(1), 5);
-        promise = 28;
+        promise(28);
         due("the good n", y.parted(0), 8);
         due("of like ones the least", y.parted(1), 1);
-        promise = 29;
+        promise(29);
         due("its glass", y.good(2, 0), 1);
         y.hours(2);
-        promise = 27;
+        promise(27);
         due("lapsed ones part, too", y.parts(0), 7);
     }
 
     private static void laws() {
-        promise = 30;
+        promise(30);
         GlassVows e = new GlassVows();
         due("none at all", e.law(0, 1), 1);
         due("no such", e.law(1, 1), NONE);
@@ -1043,7 +961,7 @@ public final class PromiseChecks {
     }
 
     private static void ringing() {
-        promise = 31;
+        promise(31);
         GlassVows x = parishOf("person a 0 0 99;person b 0 0 99;person c 0 0 0;person d 0 0 0;glass g a b 20 4;"
                 + "glass h c d 1 1;damp 2 3;level;");
         x.hours(4);
@@ -1080,7 +998,7 @@ public final class PromiseChecks {
     }
 
     private static void togetherness() {
-        promise = 32;
+        promise(32);
         GlassVows x = parishOf(PARISH);
         due("8 to 21", x.together(0, 24), 14);
         due("20 to 3", x.together(1, 24), 8);
@@ -1104,16 +1022,16 @@ public final class PromiseChecks {
     }
 
     private static void bannsAreRead() {
-        promise = 33;
+        promise(33);
         GlassVows x = parishOf(PARISH);
-        promise = 34;
+        promise(34);
         due("ahead of any", x.byteAt(0), NONE);
         bannsDue(x, 0, "ann and bob for 10");
         bannsDue(x, 1, "cal and dot for 10");
-        promise = 33;
+        promise(33);
         due("no such", x.banns(2), NONE);
         due("no such", x.banns(-1), NONE);
-        promise = 34;
+        promise(34);
         due("the latest stays", x.byteAt(0), 'c');
         due("none such", x.byteAt(18), NONE);
         due("none such", x.byteAt(-1), NONE);
@@ -1143,7 +1061,7 @@ public final class PromiseChecks {
     }
 
     private static void draws() {
-        promise = 35;
+        promise(35);
         GlassVows x = parishOf("person a 0 0 10;person b 0 0 10;glass g a b 200 1;");
         GlassVows y = parishOf("person a 0 0 10;person b 0 0 10;glass g a b 200 1;");
         due("0 hours", x.drawn(0, 1), NONE);
@@ -1197,7 +1115,7 @@ public final class PromiseChecks {
         }
         due("57 are left", x.drawn(60, 7), 57);
         due("all are over", x.drawn(60, 7), 0);
-        promise = 36;
+        promise(36);
         GlassVows z = parishOf("person a 0 12 50;person b 6 9 20;glass g a b 9 2;grace 3;");
         int sum = 0;
         for (int seed = 100; seed < 130; seed++) {
@@ -1221,7 +1139,7 @@ public final class PromiseChecks {
     }
 
     private static void rolls() {
-        promise = 37;
+        promise(37);
         GlassVows x = parishOf(PARISH);
         tell(x, "hour 10;");
         due("another lives", x.roll(2), -1000);
@@ -1230,17 +1148,17 @@ public final class PromiseChecks {
         due("judged", x.roll(0), NONE);
         due("the tape is empty", x.count(8), 0);
         due("all stays as it is", x.now(0), 0);
-        promise = 38;
+        promise(38);
         due("the hour then", x.rolled(2), 10);
         due("lines", x.rolled(1), 1);
         due("why", x.rolled(0), 0);
         due("another what", x.rolled(4), NONE);
         due("another what", x.rolled(-1), NONE);
-        promise = 37;
+        promise(37);
         due("the line that is wrong", rollOf(x, "ann wakes; ann woos 20; vow spills 30; ann turns; ann turns;", 1), 4);
         due("lived as far as it is not", x.glass(0, 8), 1);
         due("wooed", x.person(1, 1), 60);
-        promise = 38;
+        promise(38);
         due("sand is left", x.rolled(0), 3);
         due("lines that are not", x.rolled(1), 4);
         due("-1000 leaves it", x.roll(5) + x.rolled(0), -997);
@@ -1260,7 +1178,7 @@ public final class PromiseChecks {
             due("why of " + wrongLines[i], y.rolled(0), whys[i]);
         }
         lapsedRolls();
-        promise = 37;
+        promise(37);
         String fresh = "hour 1;".repeat(40);
         due("40 lines", rollOf(x, fresh, 0), NONE);
         due("40 lines", x.rolled(1), 40);
@@ -1272,9 +1190,9 @@ public final class PromiseChecks {
         String[] lines = {"a turns", "a woos 1", "g tilts 1", "g widens 1", "g spills 1"};
         int[] whys = {1, 21, 31, 41, 51};
         for (int i = 0; i < lines.length; i++) {
-            promise = 37;
+            promise(37);
             due("lapsed", rollOf(u, "hour 7;" + lines[i] + ";", 0), 1);
-            promise = 38;
+            promise(38);
             due("why", u.rolled(0), whys[i]);
             due("who is lapsed then", u.rolled(3), 1);
             due("not now", u.now(2), 0);
@@ -1282,7 +1200,7 @@ public final class PromiseChecks {
         GlassVows e = parishOf("person a 0 0 0;person b 0 0 0;glass g a b 5 1;early;");
         due("all of it is left", rollOf(e, "a turns;", 0), 0);
         due("why", e.rolled(0), 4);
-        promise = 37;
+        promise(37);
         for (int i = 0; i < 9; i++) {
             e.hours(60);
         }
@@ -1291,7 +1209,7 @@ public final class PromiseChecks {
     }
 
     private static void faultsOfRolls() {
-        promise = 37;
+        promise(37);
         faultOfRoll("hour", 4, 1);
         faultOfRoll("hour 0;", 5, 2);
         faultOfRoll("hour 61;", 5, 2);
@@ -1323,7 +1241,7 @@ public final class PromiseChecks {
     }
 
     private static void sentences() {
-        promise = 39;
+        promise(39);
         GlassVows x = parishOf(PARISH);
         String[] texts = {"run", "not run", "(run)", "not(not(lapsed))and aslant or both", "of ann and left<5",
             "not not not not not not not run", "((((((( lapsed )))))))", "run or run".concat(" or run".repeat(18))};
@@ -1370,7 +1288,7 @@ public final class PromiseChecks {
     }
 
     private static void sayings() {
-        promise = 40;
+        promise(40);
         GlassVows x = parishOf("person a 0 6 90;person b 3 9 0;person c 0 0 0;person d 0 0 0;person e 0 0 0;"
                 + "person f 0 0 0;person i 0 0 0;glass g a b 20 4;glass h c d 2 9;glass k e f 10 1;level;");
         due("no sentence", x.said(NONE), NONE);
@@ -1420,15 +1338,15 @@ public final class PromiseChecks {
     }
 
     private static void images() {
-        promise = 41;
+        promise(41);
         GlassVows x = parishOf(PARISH);
         due("no such", x.image(2), false);
         due("no such", x.image(-1), false);
-        promise = 42;
+        promise(42);
         due("nothing is kept", x.restore(0), false);
         due("no such", x.restore(2), false);
         due("no such", x.restore(-1), false);
-        promise = 41;
+        promise(41);
         saidBy(x, "number=1");
         x.wake(0);
         due("kept", x.image(1), true);
@@ -1444,7 +1362,7 @@ public final class PromiseChecks {
         saidBy(x, "run");
         x.hours(4);
         x.feed(1, 2, 3, 4, 5);
-        promise = 42;
+        promise(42);
         due("restored", x.restore(1), true);
         due("the tape stays", x.count(8), 20);
         due("what banns() told stays", x.byteAt(0), 'a');
@@ -1457,7 +1375,7 @@ public final class PromiseChecks {
         due("sentence", x.said(0), 1);
         due("goods", x.parts(0), 9);
         bannsDue(x, 0, "ann and bob for 10");
-        promise = 42;
+        promise(42);
         due("restored", x.restore(0), true);
         due("hour", x.now(0), 30);
         due("lapsed", x.now(2), 1);
@@ -1468,7 +1386,7 @@ public final class PromiseChecks {
         due("again", x.restore(0), true);
         due("the image stays", x.now(0), 30);
         GlassVows y = new GlassVows();
-        promise = 41;
+        promise(41);
         due("an empty parish", y.image(0), true);
         tell(y, PARISH);
         y.parish();
@@ -1479,7 +1397,7 @@ public final class PromiseChecks {
     }
 
     private static void counts() {
-        promise = 43;
+        promise(43);
         GlassVows x = parishOf(PARISH + "damp 1 1;early;");
         int[] want = {4, 2, 3, 2, 50, 1, 1, 2, 0};
         for (int what = 0; what < want.length; what++) {
@@ -1528,10 +1446,6 @@ public final class PromiseChecks {
         sayings();
         images();
         counts();
-        System.out.println(wrong == 0 ? "PromiseChecks: all answers are as due"
-                : "PromiseChecks: " + wrong + " answers are not as due");
-        if (wrong != 0) {
-            System.exit(1);
-        }
+        finish("PromiseChecks");
     }
 }

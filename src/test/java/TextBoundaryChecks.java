@@ -414,8 +414,8 @@ public final class TextBoundaryChecks extends Checking {
         sentenceFails("of ^zed", 3);
         sentenceFails("of ^g", 3);
         sentenceFails("of ^cow", 3);
-        terms("( 'left' | 'neck' | 'turned' | 'number' ) SIGN NUMBER (how often it was turned so far; its number). "
-                + "SIGN: < = >.");
+        terms("( 'left' | 'neck' | 'turned' | 'number' ) SIGN NUMBER (how often it was turned so far;"
+                + " its number). SIGN: < = >.");
         for (String word : new String[] {"left", "neck", "turned", "number"}) {
             sentenceIs(word + "<0", 1);
             sentenceIs(word + "=1", 1);
