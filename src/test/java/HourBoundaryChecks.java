@@ -519,29 +519,28 @@ public final class HourBoundaryChecks extends Checking {
 
     /** A text with a FAULT at its end tells another parish, of which nothing must be seen; nor of an earlier one. */
     private static void anotherParish() {
-        String two = "person ann 5 6 50;person bob 7 22 60;person cal 1 2 99;person dot 8 9 55;warms ann 2;"
+        String two = "person ann 5 6 50;person bob 0 22 60;person cal 1 2 99;person dot 8 9 55;warms ann 2;"
                 + "cools bob 3;glass g dot cal 20 3;glass h ann bob 60 2;good k h 5 6;good l h 3 9;damp 3 30;grace 3;"
                 + "wish 52;";
         String[] others = {".", "person zed 0 0 1;.", "person zed 0 0 1;person kit 0 0 2;warms kit 9;cools zed 9;"
                 + "glass m zed kit 7 9;good n m 1 1;damp 0 599;grace 9;wish 1;early;level;.", two.replace("dot cal",
                 "bob dot")
             .replace("ann bob", "cal ann").replace("5 6 50", "0 0 0").replace("1 2 99", "0 0 0") + "."};
-        GlassVows x = null;
         for (String other : others) {
-            x = parishOf(two);
+            GlassVows x = parishOf(two);
             x.hours(2);
             sentenceOf(x, "both or of bob and left>5");
             String before = answersOf(x);
             tell(x, other);
             due("a fault at its end", x.parish(), -other.length());
             due("nothing of it is seen", answersOf(x), before);
+            due("the fourth turns", x.turn(3), 2);
+            due("the fourth is woken", x.wake(3), 0);
+            due("the fourth woos", x.woo(3, 1), 0);
+            due("the second is tilted", x.tilt(1, 1), 0);
+            due("the second is widened", x.widen(1, 1), 0);
+            due("of the second one is spilt", x.spill(1, 1), 0);
         }
-        due("the fourth turns", x.turn(3), 2);
-        due("the fourth is woken", x.wake(3), 0);
-        due("the fourth woos", x.woo(3, 1), 0);
-        due("the second is tilted", x.tilt(1, 1), 0);
-        due("the second is widened", x.widen(1, 1), 0);
-        due("of the second one is spilt", x.spill(1, 1), 0);
         GlassVows y = parishOf(two + "early;level;");
         y.tilt(0, 1);
         y.hours(1);
