@@ -351,6 +351,12 @@ public final class AskBoundaryChecks extends Checking {
         playDue("woken now", woken, 0, 0);
         woken.wake(1);
         playDue("both woken now", woken, 1, 0);
+        GlassVows waiting = parishOf("person a 8 9 50;person b 0 0 0;glass g a b 10 2;grace 3;");
+        live(waiting, 5);
+        playDue("5, 6 and 7", waiting, NONE, NONE);
+        waiting.hours(1);
+        due("waited", waiting.glass(0, 7), 1);
+        playDue("it ends now: 6, 7 and 8", waiting, 0, 8);
         playDue("nobody", parishOf(UNFOND), NONE, NONE);
         playDue("it does not end", heldUntil(500, 100, "wish 0;"), NONE, NONE);
         playDue("in 599 alone", heldUntil(500, 99, "wish 0;grace 9;"), 1, 599);
